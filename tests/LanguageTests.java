@@ -1,4 +1,5 @@
 import java.io.IOException;
+import java.lang.reflect.Array;
 import java.lang.reflect.Constructor;
 import java.lang.reflect.Field;
 import java.lang.reflect.Method;
@@ -7,7 +8,9 @@ import java.nio.file.Files;
 import java.nio.file.Path;
 import java.util.ArrayList;
 import java.util.Arrays;
+import java.util.IdentityHashMap;
 import java.util.List;
+import java.util.Map;
 import java.util.Set;
 import java.util.TreeSet;
 import java.util.regex.Matcher;
@@ -33,6 +36,7 @@ public final class LanguageTests {
         face();
         classes();
         source();
+        room();
         System.out.println("LanguageTests" + (wrong == 0 ? ": all as due" : ": " + wrong + " wrong"));
         if (wrong != 0) {
             System.exit(1);
@@ -131,6 +135,49 @@ public final class LanguageTests {
 
     private static String withoutComments(String text) {
         return text.replaceAll("(?s)/\\*.*?\\*/", "").replaceAll("//[^\n]*", "");
+    }
+
+    /** An object and its arrays are made once, and small enough that many runs have room. */
+    private static void room() throws IOException {
+        SpiderTales tales = new SpiderTales();
+        Map<Object, Boolean> parts = new IdentityHashMap<>();
+        long size = sizeOf(tales, parts);
+        hold(parts.size() < 100, "an object is made of " + parts.size());
+        hold(size < 20000, "an object has " + size + " fields and elements");
+        String text = withoutComments(Files.readString(Path.of("src/main/java/SpiderTales.java")));
+        Matcher made = Pattern.compile("([^\n]*)\\bnew (\\w+)").matcher(text);
+        while (made.find()) {
+            boolean first = made.group(1).contains("private final ") || made.group(1).matches(" {12}\\w+ = ");
+            hold(first || made.group(1).endsWith("throw "), "made in a call: " + made.group());
+        }
+    }
+
+    private static long sizeOf(Object object, Map<Object, Boolean> parts) {
+        if (object == null || parts.put(object, true) != null) {
+            return 0;
+        }
+        if (object.getClass().isArray()) {
+            return Array.getLength(object);
+        }
+        long sum = 0;
+        for (Field field : object.getClass().getDeclaredFields()) {
+            if (!Modifier.isStatic(field.getModifiers())) {
+                sum++;
+                if (!field.getType().isPrimitive()) {
+                    sum += sizeOf(valueOf(field, object), parts);
+                }
+            }
+        }
+        return sum;
+    }
+
+    private static Object valueOf(Field field, Object object) {
+        try {
+            field.setAccessible(true);
+            return field.get(object);
+        } catch (IllegalAccessException e) {
+            throw new IllegalStateException(e);
+        }
     }
 
     /** A method begins at an indentation of 4 or 8 and ends by a brace there. */

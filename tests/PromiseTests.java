@@ -124,6 +124,24 @@ public final class PromiseTests {
         Check.due("sky", Check.read(y, "creature 1 0 0 9 0;"), 0);
         Check.due("free anew", y.count(6), 1);
         Check.due("no guard", y.count(9), NONE);
+        skyBehindSky();
+    }
+
+    private static void skyBehindSky() {
+        SpiderTales x = Check.of(THREE + "hunter 1 1;tale 1;bound 1;");
+        x.attempt(2, 0);
+        x.guard(2);
+        Check.due("a fault", Check.read(x, "coins 1;rival 1;bound 1;tale 1;trick"), 1);
+        Check.due("the same words again", Check.read(x, THREE + "tale 5;"), 0);
+        Check.due("fault()", x.fault(), NONE);
+        Check.due("tricks anew", x.count(1), 3);
+        Check.due("no hunters", x.count(2), 0);
+        Check.due("tales anew", x.count(3), 1);
+        Check.due("coins anew", x.count(4), 40);
+        Check.due("free anew", x.count(6), 7);
+        Check.due("no guard", x.count(9), NONE);
+        Check.due("no cord", x.creature(2, 5), 0);
+        Check.due("no rule", x.attempt(0, 0), 1);
     }
 
     private static void skyOfRows() {
@@ -156,6 +174,14 @@ public final class PromiseTests {
         Check.fault("coins -1;", 1, 6);
         Check.fault("creatures 0 0 0 0 0;", 1, 0);
         Check.fault("7;", 1, 0);
+        Check.fault("xoins 1;", 1, 0);
+        Check.fault("coinz 1;", 1, 0);
+        Check.fault("coinsz 1;", 1, 0);
+        Check.fault("coin 1;", 1, 0);
+        Check.fault("coins` 1;", 1, 5);
+        Check.fault("coins{ 1;", 1, 5);
+        Check.fault("coins /1;", 1, 6);
+        Check.fault("coins :1;", 1, 6);
         Check.fault("cord;", 1, 0);
         Check.fault("  Coins 1;", 1, 2);
         Check.fault("coins\t1;", 1, 5);
@@ -415,6 +441,8 @@ public final class PromiseTests {
         rule("2<2", false);
         rule("2<1", false);
         rule("(1<2)=1", true);
+        rule("(2=2)=1", true);
+        rule("(2=3)=0", true);
         rule("not 0", true);
         rule("not 5", false);
         rule("(not 5)=0", true);
@@ -619,6 +647,25 @@ public final class PromiseTests {
         Check.due("cord stays at 60", v.plan(0, -1), 9);
         SpiderTales u = Check.of("creature 10 0 0 0 0;trick 0 0 0 0 7 0;bound cord=59;");
         Check.due("no such cord", u.plan(0, -1), -2);
+        planByRule();
+    }
+
+    private static void planByRule() {
+        SpiderTales x = Check.of("creature 0 0 1 4 0;creature 0 0 0 5 0;trick 0 0 0 0 1 0;trick 32 0 0 0 0 0;"
+                + "bound cord-wary-price;");
+        Check.due("6 cords for wary 1 and price 4", x.plan(0, -1), 6);
+        Check.due("6 cords for price 5", x.plan(1, -1), 6);
+        x.attempt(0, 1);
+        Check.due("warier", x.plan(0, -1), 7);
+        Check.due("warier", x.cheapest(0), 0);
+        SpiderTales y = Check.of("creature 0 0 0 0 0;creature 0 62 0 0 0;trick 0 0 1 0 0 3;trick 1 0 2 0 0 1;trick 2 0 4 0 0 1;"
+                + "trick 4 0 8 0 0 1;trick 8 0 16 0 0 1;trick 16 0 32 0 0 1;trick 63 0 0 0 1 2;bound beliefs=6 and cord=60;");
+        Check.due("all beliefs, then sixty cords", y.plan(0, -1), 66);
+        Check.due("all beliefs, then sixty cords", y.cheapest(0), 128);
+        Check.due("one belief less", y.plan(1, -1), 61);
+        Check.due("one belief less", y.cheapest(1), 123);
+        Check.due("0 to 5 first", y.plan(0, 5), 5);
+        Check.due("then 6", y.plan(0, 6), 6);
     }
 
     private static void cheapest() {
@@ -634,6 +681,17 @@ public final class PromiseTests {
         Check.due("many small ones", y.cheapest(0), 5);
         SpiderTales z = Check.of("creature 10 0 0 0 0;trick 1 0 0 0 1 0;");
         Check.due("none", z.cheapest(0), NONE);
+        // the dear first step is found first, the cheap way round comes later at the same cord
+        SpiderTales w = Check.of("creature 1 0 0 0 0;trick 0 0 1 0 0 20;trick 0 0 2 0 0 1;trick 2 0 5 2 0 1;"
+                + "trick 1 0 0 0 20 4;");
+        Check.due("by another way", w.cheapest(0), 6);
+        SpiderTales v = Check.of("creature 20 0 0 0 2;creature 2 0 0 0 5;trick 0 0 0 0 5 5;");
+        Check.due("four", v.cheapest(0), 20);
+        Check.due("one", v.cheapest(1), 5);
+        v.attempt(0, 0);
+        Check.due("cord as it is", v.cheapest(0), 15);
+        v.attempt(1, 0);
+        Check.due("help as it is", v.cheapest(0), 10);
         Check.noSuch("cheapest(1)", () -> z.cheapest(1));
         Check.noSuch("cheapest(-1)", () -> z.cheapest(-1));
     }
@@ -780,6 +838,11 @@ public final class PromiseTests {
         y.attempt(1, 0);
         Check.due("one of two", y.toGuard(3), 1);
         Check.due("nothing changed", y.count(9), NONE);
+        SpiderTales w = Check.of("creature 1 0 0 9 0;creature 1 0 0 5 0;trick 0 0 0 0 1 0;rival 1;");
+        w.attempt(0, 0);
+        w.attempt(1, 0);
+        Check.due("the first, for a day", w.toGuard(1), 0);
+        Check.due("the first, for long", w.toGuard(60), 0);
         SpiderTales z = Check.of("creature 1 0 0 0 0;trick 0 0 0 0 1 0;rival 1;");
         z.attempt(0, 0);
         Check.due("of no price", z.toGuard(60), NONE);
@@ -926,6 +989,13 @@ public final class PromiseTests {
         z.attempt(0, 0);
         z.mark(0, 2, 0, true);
         Check.due("of one who is caught, none is caught", z.how(0, 2, 0), 1);
+        SpiderTales w = Check.of("creature 1 0 0 0 0;creature 1 6 0 0 0;trick 6 0 1 0 0 0;trick 0 0 8 0 0 0;");
+        w.mark(1, 1, 0, true);
+        w.mark(0, 1, 0, true);
+        Check.due("from its beliefs", w.how(1, 1, 0), 1);
+        Check.due("from its beliefs", w.how(0, 1, 0), 0);
+        w.tell(1, 1, false);
+        Check.due("as they are", w.how(1, 1, 0), 0);
     }
 
     private static void next() {
@@ -1001,25 +1071,29 @@ public final class PromiseTests {
         Check.due("on the fifth", y.spiders(5, 2, 1), 2);
         SpiderTales z = Check.of("creature 1 1 0 9 0;trick 0 1 0 0 1 3;coins 7;");
         Check.due("two tries, then it may not", z.spiders(5, 1, 2), 1);
-        // seed 1: 1103527590 draws 6 mod 2, 377401575 draws 5758 mod 2, 662824084 10113, 1147902781 17515, ...
         SpiderTales w = Check.of("creature 60 0 0 9 0;creature 1 0 0 9 0;trick 0 0 0 0 1 1;trick 0 0 0 0 2 10;coins 99;");
-        int seed = 1;
-        int coins = 99;
-        int caught = 0;
-        for (int day = 0; day < 6; day++) {
-            seed = seed * 1103515245 + 12345;
-            int creature = (seed >> 16 & 0x7fff) % 2;
-            seed = seed * 1103515245 + 12345;
-            int trick = (seed >> 16 & 0x7fff) % 2;
-            if (creature == 0 || caught == 0) {
-                coins -= trick == 0 ? 1 : 10;
-                caught |= creature;
+        for (int first = -50; first < 50; first++) {
+            int seed = first;
+            int[] coins = {99, 99};
+            int[] caught = {0, 0};
+            for (int day = 0; day < 12; day++) {
+                seed = seed * 1103515245 + 12345;
+                int creature = (seed >> 16 & 0x7fff) % 2;
+                seed = seed * 1103515245 + 12345;
+                int trick = (seed >> 16 & 0x7fff) % 2;
+                if (creature == 0 || caught[day / 6] == 0) {
+                    coins[day / 6] -= trick == 0 ? 1 : 10;
+                    caught[day / 6] |= creature;
+                }
             }
+            Check.due("by the seed", w.spiders(first, 1, 2), coins[0]);
+            Check.due("by the seed", w.spiders(first, 1, 0), caught[0]);
+            Check.due("the seed goes on", w.spiders(first, 2, 2), Math.max(coins[0], coins[1]));
+            Check.due("the seed goes on", w.spiders(first, 2, 0), caught[0] + caught[1]);
         }
-        Check.due("by the seed", w.spiders(1, 1, 2), coins);
-        Check.due("by the seed", w.spiders(1, 1, 0), caught);
         SpiderTales v = Check.of("trick 0 0 0 0 1 3;coins 7;");
         Check.due("no creatures", v.spiders(LOW, 30, 2), 7);
+        Check.due("no tricks", Check.of("creature 1 0 0 0 0;coins 7;").spiders(LOW, 30, 2), 7);
         SpiderTales u = Check.of("creature 1 0 0 9 0;creature 1 0 0 8 0;trick 0 0 0 0 1 0;rival 6;");
         u.attempt(0, 0);
         u.attempt(1, 0);
@@ -1070,6 +1144,8 @@ public final class PromiseTests {
         Check.due("2 and 3", x.useless(), 12);
         SpiderTales y = Check.of("creature 1 0 0 0 0;creature 1 32 0 0 0;trick 0 0 1 0 1 0;trick 32 0 2 0 1 0;");
         Check.due("one for each", y.useless(), 0);
+        SpiderTales z = Check.of("creature 1 32 0 0 0;creature 1 0 0 0 0;trick 0 0 1 0 1 0;trick 32 0 2 0 1 0;");
+        Check.due("one for each, the other way", z.useless(), 0);
         y.attempt(1, 0);
         Check.due("free ones alone", y.useless(), 2);
         y.attempt(0, 0);
@@ -1217,5 +1293,29 @@ public final class PromiseTests {
             x.give(5);
             x.give(6);
         }
+        restoreManyActs();
+    }
+
+    private static void restoreManyActs() {
+        SpiderTales x = Check.of("coins 0;");
+        for (int i = 1; i <= 50; i++) {
+            x.give(i % 7 + 1);
+        }
+        int coins = x.count(4);
+        x.image();
+        for (int i = 0; i < 25; i++) {
+            x.undo();
+        }
+        for (int i = 0; i < 70; i++) {
+            x.give(9);
+        }
+        x.restore();
+        Check.due("coins", x.count(4), coins);
+        for (int i = 50; i > 10; i--) {
+            coins -= i % 7 + 1;
+            Check.due("undo", x.undo(), i - 11);
+            Check.due("coins", x.count(4), coins);
+        }
+        Check.due("none is left", x.undo(), NONE);
     }
 }

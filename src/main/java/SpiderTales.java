@@ -753,7 +753,33 @@ public final class SpiderTales {
             sky.clear();
             tokens.open(length);
             for (int i = 0; i < TEXT_BYTES && kind == 0 && tokens.kind() != Tokens.END; i++) {
-                readLine();
+                switch (tokens.kind()) {
+                    case Tokens.CREATURE_WORD:
+                        readRow(sky.creatures);
+                        break;
+                    case Tokens.TRICK_WORD:
+                        readRow(sky.tricks);
+                        break;
+                    case Tokens.HUNTER_WORD:
+                        readRow(sky.hunters);
+                        break;
+                    case Tokens.TALE_WORD:
+                        readRow(sky.tales);
+                        break;
+                    case Tokens.COINS_WORD:
+                        readCoins();
+                        break;
+                    case Tokens.RIVAL_WORD:
+                        readRival();
+                        break;
+                    case Tokens.BOUND_WORD:
+                        readBound();
+                        break;
+                    default:
+                        refuse(WRONG);
+                        break;
+                }
+                expect(';');
             }
             return kind;
         }
@@ -767,36 +793,6 @@ public final class SpiderTales {
                 kind = fault;
                 place = tokens.start();
             }
-        }
-
-        private void readLine() {
-            switch (tokens.kind()) {
-                case Tokens.CREATURE_WORD:
-                    readRow(sky.creatures);
-                    break;
-                case Tokens.TRICK_WORD:
-                    readRow(sky.tricks);
-                    break;
-                case Tokens.HUNTER_WORD:
-                    readRow(sky.hunters);
-                    break;
-                case Tokens.TALE_WORD:
-                    readRow(sky.tales);
-                    break;
-                case Tokens.COINS_WORD:
-                    readCoins();
-                    break;
-                case Tokens.RIVAL_WORD:
-                    readRival();
-                    break;
-                case Tokens.BOUND_WORD:
-                    readBound();
-                    break;
-                default:
-                    refuse(WRONG);
-                    break;
-            }
-            expect(';');
         }
 
         private void readRow(Table table) {
@@ -1032,23 +1028,21 @@ public final class SpiderTales {
                     waiting[top] = waiting[top] == 0 ? 1 : 0;
                 } else if (top >= 1) {
                     top--;
-                    waiting[top] = join(step, waiting[top], waiting[top + 1]);
+                    int a = waiting[top];
+                    int b = waiting[top + 1];
+                    switch (step) {
+                        case OR: waiting[top] = a != 0 || b != 0 ? 1 : 0; break;
+                        case AND: waiting[top] = a != 0 && b != 0 ? 1 : 0; break;
+                        case LESS: waiting[top] = a < b ? 1 : 0; break;
+                        case SAME: waiting[top] = a == b ? 1 : 0; break;
+                        case PLUS: waiting[top] = a + b; break;
+                        case MINUS: waiting[top] = a - b; break;
+                        case TIMES: waiting[top] = a * b; break;
+                        default: waiting[top] = b == 0 ? 0 : a / b; break;
+                    }
                 }
             }
             return top >= 0 ? waiting[top] : 0;
-        }
-
-        private static int join(int sign, int a, int b) {
-            switch (sign) {
-                case OR: return a != 0 || b != 0 ? 1 : 0;
-                case AND: return a != 0 && b != 0 ? 1 : 0;
-                case LESS: return a < b ? 1 : 0;
-                case SAME: return a == b ? 1 : 0;
-                case PLUS: return a + b;
-                case MINUS: return a - b;
-                case TIMES: return a * b;
-                default: return b == 0 ? 0 : a / b;
-            }
         }
     }
 
@@ -1634,7 +1628,7 @@ public final class SpiderTales {
         /** Every place that can be come to. */
         void spread() {
             begin();
-            for (int head = 0; head < tail; head++) {
+            for (int head = 0; head < tail && head < PLACES; head++) {
                 goOnFrom(head);
             }
         }
@@ -1643,7 +1637,7 @@ public final class SpiderTales {
         int fewestTries() {
             begin();
             // in this order the first row that is found is the first by tricks, too
-            for (int head = 0; head < tail && goal == NONE; head++) {
+            for (int head = 0; head < tail && head < PLACES && goal == NONE; head++) {
                 goOnFrom(head);
             }
             int tries = 0;
@@ -1836,23 +1830,18 @@ public final class SpiderTales {
                 if (((free & ~caught) >> c & 1) == 0 || tries[caught | 1 << c] == NONE) {
                     continue;
                 }
-                int own = planOf(c, help);
-                int sum = own + tries[caught | 1 << c];
-                if (own > 0 && (best == NONE || sum < best)) {
+                int slot = c * HELPS + help;
+                if (plans[slot] == UNKNOWN) {
+                    search.startAt(state, c, help);
+                    plans[slot] = search.fewestTries();
+                }
+                int sum = plans[slot] + tries[caught | 1 << c];
+                if (plans[slot] > 0 && (best == NONE || sum < best)) {
                     best = sum;
                     firsts[caught] = c;
                 }
             }
             tries[caught] = best;
-        }
-
-        private int planOf(int creature, int help) {
-            int slot = creature * HELPS + help;
-            if (plans[slot] == UNKNOWN) {
-                search.startAt(state, creature, help);
-                plans[slot] = search.fewestTries();
-            }
-            return plans[slot];
         }
     }
 
