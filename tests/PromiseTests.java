@@ -190,6 +190,11 @@ public final class PromiseTests {
         Check.fault("coins 1;coins 1000;", 5, 8);
         Check.fault("rival 1;coins 1;rival", 5, 16);
         Check.fault("bound 1;bound;", 5, 8);
+        Check.fine(" ".repeat(700));
+        Check.fault(" ".repeat(695) + "coins", 1, 700);
+        Check.fault(" ".repeat(693) + "coins 1", 1, 700);
+        Check.fault(" ".repeat(699) + "#", 1, 699);
+        Check.fine(" ".repeat(692) + "coins 1;");
         Check.fine("tale 1;".repeat(8));
         Check.fault("tale 1;".repeat(9), 2, 56);
         Check.fine("hunter 1 1;".repeat(6));
