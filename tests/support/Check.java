@@ -24,6 +24,13 @@ final class Check {
         due(call, got ? 1 : 0, want ? 1 : 0);
     }
 
+    static void same(String call, String got, String want) {
+        if (!got.equals(want)) {
+            wrong++;
+            System.out.println(part + ": " + call + " is " + got + ", due is " + want);
+        }
+    }
+
     static void noSuch(String call, LongSupplier asked) {
         thrown(call, asked, NoSuchElementException.class);
     }
