@@ -197,6 +197,16 @@ public final class AskEdges {
         Check.due("for nothing", Check.of("creature 60 0 0 0 0;trick 0 0 0 0 1 0;").cheapest(0), 0);
         Check.due("sixty by twenty", Check.of("creature 60 0 0 0 0;trick 0 0 0 0 1 20;coins 0;").cheapest(0), 1200);
         Check.due("fewest is not cheapest", Check.of("creature 20 0 0 0 0;trick 0 0 0 0 20 20;trick 0 0 0 0 1 0;").cheapest(0), 0);
+        // all 64 sets of beliefs come about ahead of the last trick
+        Check.due("all sets", Check.of("creature 1 0 0 0 0;trick 0 0 1 0 0 1;trick 0 0 2 0 0 1;trick 0 0 4 0 0 1;"
+                + "trick 0 0 8 0 0 1;trick 0 0 16 0 0 1;trick 0 0 32 0 0 1;trick 63 0 0 0 20 1;").cheapest(0), 7);
+        // dear ways to most sets come about first, and are bettered again and again
+        Check.due("bettered", Check.of("creature 1 0 0 0 0;trick 0 0 8 0 0 2;trick 6 0 16 0 0 9;trick 44 0 1 8 0 9;"
+                + "trick 0 0 4 0 0 5;trick 0 0 2 36 0 1;trick 0 0 32 8 0 2;trick 36 16 32 34 0 0;trick 19 0 0 0 20 0;").cheapest(0), 28);
+        Check.due("bettered", Check.of("creature 1 0 0 0 0;trick 0 8 2 8 0 5;trick 0 0 32 10 0 20;trick 0 0 16 32 0 20;"
+                + "trick 8 48 2 17 0 5;trick 0 0 1 32 0 2;trick 0 8 8 16 0 20;trick 24 0 4 0 0 5;trick 10 16 0 0 20 1;").cheapest(0), 26);
+        Check.due("bettered", Check.of("creature 1 0 0 0 0;trick 1 0 2 0 0 5;trick 0 8 4 5 0 9;trick 32 0 8 0 0 20;"
+                + "trick 0 1 16 2 0 1;trick 0 2 1 0 0 0;trick 0 0 4 48 0 0;trick 4 0 32 0 0 0;trick 23 0 0 0 20 0;").cheapest(0), 6);
     }
 
     private static void canBelieveEdges() {
@@ -670,6 +680,16 @@ public final class AskEdges {
         SpiderTales noTricks = Check.of("creature 1 0 0 0 0;coins 0;");
         Check.due("no tricks", noTricks.spiders(9, 30, 0), 0);
         Check.due("no coins", noTricks.spiders(9, 30, 2), 0);
+        SpiderTales nothingToTry = Check.of("creature 0 0 0 0 0;bound 1;");
+        Check.due("no tricks, a rule that holds", nothingToTry.spiders(9, 30, 0), 0);
+        Check.read(nothingToTry, "creature 1 0 0 0 0;trick 0 0 0 0 1 3;");
+        Check.read(nothingToTry, "creature 1 0 0 0 0;");
+        Check.due("no tricks any more", nothingToTry.spiders(9, 30, 0), 0);
+        Check.due("no tricks any more", nothingToTry.spiders(9, 30, 2), 50);
+        SpiderTales noCreatures = Check.of("creature 1 0 0 0 0;trick 0 0 0 0 1 3;");
+        Check.read(noCreatures, "trick 0 0 0 0 1 3;");
+        Check.due("no creatures any more", noCreatures.spiders(9, 30, 0), 0);
+        Check.due("no creatures any more", noCreatures.spiders(9, 30, 2), 50);
         SpiderTales dear = Check.of("creature 60 0 0 0 0;trick 0 0 0 0 1 20;coins 119;");
         Check.due("five of six tries", dear.spiders(FAR, 1, 2), 19);
         SpiderTales just = Check.of("creature 60 0 0 0 0;trick 0 0 0 0 1 20;coins 120;");
@@ -867,6 +887,7 @@ public final class AskEdges {
         FRESH.answers("no creatures", SpiderTales::nearest, NONE);
         RICH.answers("the free one", SpiderTales::nearest, 0);
         Check.due("of like ones the least", Scene.of(21, 20, 20).nearest(), 1);
+        Check.due("the first", Scene.of(20, 21, 60).nearest(), 0);
         Check.due("the sixth", Scene.of(60, 60, 60, 60, 60, 40).nearest(), 5);
         Check.due("no tricks", Check.of("creature 1 0 0 0 0;").nearest(), NONE);
         Check.due("none has one", Check.of("creature 1 0 0 0 0;trick 1 0 0 0 1 0;").nearest(), NONE);

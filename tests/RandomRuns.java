@@ -10,7 +10,9 @@ public final class RandomRuns {
     private static final long NO_SUCH = Long.MIN_VALUE;
     private static final long ILLEGAL = Long.MIN_VALUE + 1;
     private static final int RUNS = 1500;
-    private static final int CALLS = 300;
+    private static final int STEPS = 300;
+    // an object has 512 calls; a new sky makes some sixty of them
+    private static final int MOST_CALLS = 440;
 
     private static int wrong = 0;
     private static final int[] asked = new int[42];
@@ -20,6 +22,7 @@ public final class RandomRuns {
     private final SpiderTales tales = new SpiderTales();
     private final Model model = new Model();
     private String latestText = "";
+    private int calls = 0;
 
     private RandomRuns(int run) {
         this.run = run;
@@ -46,7 +49,7 @@ public final class RandomRuns {
 
     private void go() {
         newSky();
-        for (int i = 0; i < CALLS && wrong < 20; i++) {
+        for (int i = 0; i < STEPS && calls < MOST_CALLS && wrong < 20; i++) {
             call(random.nextInt(150));
         }
     }
@@ -62,6 +65,7 @@ public final class RandomRuns {
     }
 
     private long same(String name, Call ours, Call theirs) {
+        calls++;
         long got = answer(ours);
         long want = answer(theirs);
         if (got != want) {
