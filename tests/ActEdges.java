@@ -23,6 +23,7 @@ public final class ActEdges {
         boundGivesMoreThanNone();
         wary();
         ints();
+        values();
         daysRefused();
         daysToTheLast();
         cordInADay();
@@ -292,6 +293,28 @@ public final class ActEdges {
             Check.due(rule, bound(rule), 2);
             Check.due("not (" + rule + ")", bound("not (" + rule + ")"), 1);
         }
+    }
+
+    private static void values() {
+        Check.part("terms 1: VALUES of a CREATURE, the least and the greatest");
+        String least = "creature 0 0 0 0 0;trick 0 0 0 0 0 0;bound ";
+        String[] none = {"cord=0", "strength=0", "wary=0", "beliefs=0", "price=0", "help=0"};
+        for (String rule : none) {
+            Check.due(rule, Check.of(least + rule + ";").attempt(0, 0), 2);
+        }
+        String greatest = "creature 60 0 9 99 9;creature 0 0 0 1 9;creature 0 0 0 1 9;creature 0 0 0 1 9;creature 0 0 0 1 9;"
+                + "creature 0 0 0 1 9;trick 0 0 63 0 20 0;bound price=1 or price=99 and ";
+        String[] most = {"cord=60", "strength=60", "wary=9", "beliefs=6", "price=99", "help=45"};
+        for (String rule : most) {
+            SpiderTales x = Check.of(greatest + rule + ";");
+            for (int c = 1; c <= 5; c++) {
+                Check.due("caught", x.attempt(c, 0), 2);
+            }
+            Check.due(rule, x.attempt(0, 0), 2);
+        }
+        SpiderTales y = Check.of("creature 7 3 4 5 6;trick 0 0 8 1 2 0;"
+                + "bound cord=2 and strength=7 and wary=4 and beliefs=2 and price=5 and help=0;");
+        Check.due("each its own", y.attempt(0, 0), 2);
     }
 
     // ---- promise 9

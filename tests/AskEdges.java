@@ -26,6 +26,7 @@ public final class AskEdges {
         cordEdges();
         whenEdges();
         toGuardEdges();
+        behindTheLastDay();
         payersEdges();
         fewEdges();
         tellersEdges();
@@ -411,6 +412,31 @@ public final class AskEdges {
         Check.due("all are stolen", x.toGuard(5), NONE);
         SpiderTales free = Scene.of(1);
         Check.due("none is caught", free.toGuard(60), NONE);
+    }
+
+    private static void behindTheLastDay() {
+        Check.part("terms 3: if only DAYS go by, from DAY 999 on");
+        SpiderTales y = Check.of("creature 1 0 0 7 0;creature 9 0 0 9 0;trick 0 0 0 0 1 0;rival 30;");
+        for (int i = 0; i < 49; i++) {
+            y.days(20);
+        }
+        y.days(19);
+        y.attempt(0, 0);
+        y.attempt(1, 0);
+        Check.due("no day goes by", y.days(1), NONE);
+        Check.due("in 20 (DAY 1019)", y.stolen(20), 0);
+        Check.due("in 21 (DAY 1020)", y.stolen(21), 1);
+        Check.due("when", y.when(0), 21);
+        Check.due("loot", y.loot(60), 7);
+        Check.due("to guard", y.toGuard(21), 0);
+        Check.due("cord", y.cord(1, 1), 0);
+        Check.due("the day stays", y.count(5), 999);
+        SpiderTales z = Check.of("creature 1 0 0 7 0;trick 0 0 0 0 1 0;rival 5;");
+        for (int i = 0; i < 49; i++) {
+            z.days(20);
+        }
+        z.days(19);
+        Check.due("spiders, too (DAY 1000, 1005)", z.spiders(3, 1, 1), 1);
     }
 
     // ---- promises 22 to 25
