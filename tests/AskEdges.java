@@ -47,6 +47,7 @@ public final class AskEdges {
         aloneEdges();
         likeEdges();
         nearestEdges();
+        withTheFirstGuarded();
         Check.end("AskEdges");
     }
 
@@ -561,6 +562,10 @@ public final class AskEdges {
         sevens.mark(0, 4, 4, true);
         Check.due("one row", sevens.how(0, 4, 0), 1);
         Check.due("7, 6, 5, 4", sevens.how(0, 4, 1), 7654);
+        SpiderTales vain = Check.of("creature 1 0 0 0 0;trick 0 0 1 0 0 0;trick 0 0 2 0 0 0;trick 63 0 0 0 0 0;");
+        for (int tries = 1; tries <= 4; tries++) {
+            Check.due("the first of rows of " + tries, vain.how(0, tries, 1), 0);
+        }
         SpiderTales full = Check.of("creature 1 0 0 0 0;trick 0 0 1 0 0 0;trick 0 0 2 0 0 0;");
         for (int step = 1; step <= 4; step++) {
             full.mark(0, step, 0, true);
@@ -810,6 +815,7 @@ public final class AskEdges {
         Check.due("no creatures", Check.of("trick 0 0 0 0 1 0;".repeat(8)).useless(), 255);
         Check.due("none is free", Scene.repeat(Scene.of(1), 1, 0, 0).useless(), 15);
         Check.due("one never works", Scene.of(1).useless(), 4);
+        Check.due("none of eight works", Check.of("creature 1 0 0 0 0;" + "trick 1 0 0 0 1 0;".repeat(8)).useless(), 255);
         Check.due("all of eight work", Check.of("creature 1 0 0 0 0;" + "trick 0 0 0 0 1 0;".repeat(8)).useless(), 0);
         SpiderTales x = Check.of("creature 2 0 0 0 0;trick 0 0 1 0 1 0;trick 1 0 2 0 1 0;trick 2 0 0 0 1 0;");
         Check.due("a row ends where it is caught", x.useless(), 4);
@@ -922,5 +928,24 @@ public final class AskEdges {
         SpiderTales x = Scene.of(1, 60, 40);
         x.attempt(0, 0);
         Check.due("not the one who is caught", x.nearest(), 2);
+    }
+
+    private static void withTheFirstGuarded() {
+        Check.part("questions while CREATURE 0 is GUARDED");
+        SpiderTales x = Scene.of(1, 60);
+        x.attempt(0, 0);
+        x.guard(0);
+        Check.due("guarded", x.count(9), 0);
+        Check.due("free", x.count(6), 2);
+        Check.due("caught", x.count(7), 1);
+        Check.due("fooled", x.fooled(0), 2);
+        Check.due("useless", x.useless(), 4);
+        Check.due("nearest", x.nearest(), 1);
+        Check.due("order", x.order(-1), 3);
+        Check.due("order", x.order(0), 1);
+        Check.due("to guard", x.toGuard(60), NONE);
+        Check.due("stolen", x.stolen(60), 0);
+        Check.due("loot", x.loot(60), 0);
+        Check.due("spiders", x.spiders(1, 1, 1), 0);
     }
 }
