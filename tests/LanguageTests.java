@@ -30,6 +30,10 @@ public final class LanguageTests {
         "int nearest()", "void image()", "boolean restore()"
     };
 
+    // of rule 4, what the program uses
+    private static final Set<String> LIBRARY = Set.of("Integer.bitCount", "Math.max", "Math.min", "Arrays.fill",
+            "System.arraycopy", "word.length", "word.charAt");
+
     private static int wrong = 0;
 
     public static void main(String[] args) throws IOException {
@@ -122,6 +126,11 @@ public final class LanguageTests {
         Matcher imports = Pattern.compile("import ([a-zA-Z.]+);").matcher(text);
         while (imports.find()) {
             hold(Set.of("java.util.Arrays", "java.util.NoSuchElementException").contains(imports.group(1)), imports.group());
+        }
+        Matcher used = Pattern.compile("\\b((?:Integer|Long|Math|Arrays|System|String|word)\\.\\w+)")
+                .matcher(withoutComments(text));
+        while (used.find()) {
+            hold(LIBRARY.contains(used.group(1)), "the library's " + used.group(1));
         }
         for (char sign : text.toCharArray()) {
             hold(sign == '\n' || sign >= ' ' && sign <= '~', "a sign " + (int) sign);

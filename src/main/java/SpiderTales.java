@@ -731,6 +731,7 @@ public final class SpiderTales {
         static final int AGAIN = 5;
         static final int MOST_DEPTH = 6;
         static final int MOST_NOTS = 6;
+        static final int MOST_NUMBER = 9999;
 
         private final Tokens tokens;
         private final Sky sky;
@@ -944,7 +945,7 @@ public final class SpiderTales {
                 return;
             }
             if (tokens.kind() == Tokens.NUMBER) {
-                sky.rule.add(readNumber(0, Integer.MAX_VALUE));
+                sky.rule.add(readNumber(0, MOST_NUMBER));
             } else if (tokens.isValue()) {
                 sky.rule.add(Rule.FIRST_VALUE - (tokens.kind() - Tokens.FIRST_VALUE));
                 tokens.step();
@@ -1731,15 +1732,14 @@ public final class SpiderTales {
         }
 
         private int cheapestOpen(int cord) {
-            int best = 0;
-            int least = Integer.MAX_VALUE;
+            int best = NONE;
             for (int set = 0; set < BELIEF_SETS; set++) {
-                if ((open[cord] >> set & 1) != 0 && costs[cord * BELIEF_SETS + set] < least) {
+                boolean isOpen = (open[cord] >> set & 1) != 0;
+                if (isOpen && (best == NONE || costs[cord * BELIEF_SETS + set] < costs[cord * BELIEF_SETS + best])) {
                     best = set;
-                    least = costs[cord * BELIEF_SETS + set];
                 }
             }
-            return best;
+            return Math.max(0, best);
         }
 
         private int payFrom(int beliefs, int cord, int bestYet) {
